@@ -361,6 +361,7 @@ public final class OrbitBox {
         }
 
         private boolean turnWrongBit() {
+            // One wrong bit leaves the remainder that its own power of x has, and each power has another.
             int power = 1;
             for (int i = 0; i < CHECKED_BITS; i++) {
                 if (power == remainder) {
@@ -609,7 +610,7 @@ public final class OrbitBox {
         boolean canShift(int by, int clock) {
             for (int i = 0; i < size; i++) {
                 long time = (long) times[i] + by;
-                if (time <= clock || time > Integer.MAX_VALUE) {
+                if (time <= clock || time != (int) time) {
                     return false;
                 }
             }

@@ -107,6 +107,27 @@ public final class Promise01NewObjectTest {
             }
             expect.same("packets in a store of " + row[0], s.box.value(28), row[1] / 19);
             expect.same("bytes in a store of " + row[0], s.box.state(3), row[1] / 19 * 19);
+            storeIsFilledToTheLastByte(row[0], row[1]);
+        }
+    }
+
+    private static void storeIsFilledToTheLastByte(int asked, int due) {
+        // A dump of n bytes has 22 + n: as many long ones as go, with room for a last one that just fits.
+        int many = (due - 23) / 277;
+        int left = due - many * 277 > 277 ? 200 : due - many * 277;
+        for (int over = 0; over < 2; over++) {
+            Station s = new Station(1, 256, 4, 1, asked);
+            s.order(15, 1, 6);
+            s.tick();
+            for (int i = 0; i < many; i++) {
+                s.order(6, 5, 0, 0, 255);
+                s.tick();
+            }
+            s.order(6, 5, 0, 0, left - 22 + over);
+            s.tick();
+            boolean fits = many * 277 + left + over <= due;
+            boolean alone = left + over > due;
+            expect.same("packets, " + asked + ", " + over, s.box.value(28), fits ? many + 1 : alone ? 0 : many);
         }
     }
 

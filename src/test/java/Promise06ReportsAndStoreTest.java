@@ -128,6 +128,7 @@ public final class Promise06ReportsAndStoreTest {
         s.sendPacket(Ground.command(1, 15, 17, 1));
         s.tick();
         expect.same("three more", s.box.value(28), 9);
+        expect.same("the first service", s.tryOut(15, 1, 0), 0);
         expect.same("the last service", s.tryOut(15, 1, 31), 0);
         expect.same("no such, and that is stored", s.tryOut(15, 1, 32), 32);
         expect.same("no such", s.tryOut(15, 2, 255), 32);

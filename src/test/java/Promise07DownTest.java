@@ -10,6 +10,7 @@ public final class Promise07DownTest {
         everyByteOfAFrame();
         emptyPacketsFillUp();
         emptyPacketsRunOver();
+        emptyPacketsRunOverInChannelOne();
         packetOverManyFrames();
         countsGoRound();
         channelsTakeTurns();
@@ -92,6 +93,24 @@ public final class Promise07DownTest {
         expect.same("what was too much is ahead", first(s.frame(0)), 6);
         expect.text("then comes the report", s.told(), "17 2");
         expect.same("then an empty one", s.empties.get(1).bytes().length, 52 - 6 - 19);
+    }
+
+    private static void emptyPacketsRunOverInChannelOne() {
+        for (int left = 1; left <= 9; left++) {
+            Station s = new Station(1, 64, 1, 1, 64);
+            s.order(15, 1, 6);
+            s.order(6, 5, 0, 0, 52 - 22 - left);
+            s.tick();
+            s.tick();
+            s.order(15, 9, Ground.join(Ground.int4(0), Ground.int4(9)));
+            s.tick();
+            int over = Math.max(0, 7 - left);
+            expect.text("it came, left " + left, s.replayed(), "6 6");
+            expect.same("waits, left " + left, s.box.state(0), over);
+            expect.same("a frame for what is too much, left " + left, s.tick(), over > 0 ? 1 : 0);
+            expect.same("of channel 1, left " + left, s.frame(0)[1], over > 0 ? 0xA3 : 0xAF);
+            expect.same("nothing waits, left " + left, s.box.state(0), 0);
+        }
     }
 
     private static void packetOverManyFrames() {
