@@ -8,6 +8,12 @@ final class Expect {
     }
 
     private int wrong = 0;
+    private String sentence = "";
+
+    /** What is told from now on belongs to this sentence of the document. */
+    void sentence(String text) {
+        sentence = "\"" + text + "\": ";
+    }
 
     void same(String what, long got, long want) {
         if (got != want) {
@@ -47,7 +53,7 @@ final class Expect {
 
     private void tell(String text) {
         wrong++;
-        System.out.println(text);
+        System.out.println(sentence + text);
     }
 
     void end() {

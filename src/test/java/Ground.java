@@ -104,7 +104,7 @@ final class Ground {
         return turned;
     }
 
-    static void load(OrbitBox box, int... bytes) {
+    static void load(Box box, int... bytes) {
         int length = 0;
         for (int at = 0; at < bytes.length; at += 20) {
             int[] five = new int[5];
@@ -121,7 +121,7 @@ final class Ground {
         }
     }
 
-    static int up(OrbitBox box, int... bytes) {
+    static int up(Box box, int... bytes) {
         load(box, bytes);
         return box.uplink();
     }

@@ -3,8 +3,9 @@ import java.util.Random;
 
 /** Holds the box against the mirror in long runs of all sorts of calls; the seeds are fixed. */
 public final class MirrorTest {
-    private static final int RUNS = 250;
-    private static final int CALLS = 160;
+    private static final int RUNS = 500;
+    /** Steps end here, far enough from the 512 calls of an object for the longest step and for much asking. */
+    private static final int MOST_CHANGES = 330;
     /** Stands for the exception: no int is that large. */
     private static final long NOTHING = Long.MAX_VALUE;
     private static final int[] KINDS = {3, 1, 3, 1, 3, 3, 3, 5, 3, 5, 3, 6, 3, 27, 5, 5, 5, 6, 6, 2, 6, 2, 6, 5, 6, 9, 8, 1,
@@ -18,7 +19,7 @@ public final class MirrorTest {
     }
 
     private final Random random;
-    private final OrbitBox box;
+    private final Box box;
     private final Mirror mirror;
     private final int length;
     private final int frames;
@@ -37,7 +38,7 @@ public final class MirrorTest {
         int patience = any(0, 6);
         int store = any(0, 3) == 0 ? any(60, 400) : any(400, 17000);
         lost = any(0, 3) == 0 ? 3 : 30;
-        box = new OrbitBox(entries, askedLength, askedFrames, patience, store);
+        box = new Box(entries, askedLength, askedFrames, patience, store);
         mirror = new Mirror(entries, askedLength, askedFrames, patience, store);
     }
 
@@ -45,12 +46,14 @@ public final class MirrorTest {
         int runs = args.length > 0 ? Integer.parseInt(args[0]) : RUNS;
         for (int seed = 1; seed <= runs; seed++) {
             MirrorTest run = new MirrorTest(seed);
-            for (int i = 0; i < CALLS; i++) {
-                String difference = run.step();
-                if (difference != null) {
-                    System.out.println("seed " + seed + ", call " + i + " (" + run.latest + "): " + difference);
-                    System.exit(1);
-                }
+            String difference = null;
+            while (difference == null && run.box.changes() < MOST_CHANGES) {
+                difference = firstOf(run.step(), run.oneOf(12) ? run.compareAll() : run.compareSome());
+            }
+            difference = firstOf(difference, run.compareAll());
+            if (difference != null) {
+                System.out.println("seed " + seed + ", " + run.latest + " at " + run.now + ": " + difference);
+                System.exit(1);
             }
         }
         System.out.println("all as due");
@@ -71,18 +74,18 @@ public final class MirrorTest {
     private String step() {
         int what = any(0, 19);
         if (what < 8) {
-            return firstOf(uplink(transmissions()), compare());
+            return uplink(transmissions());
         }
         if (what < 16) {
             latest = "tick";
             now++;
-            return firstOf(differ("tick", box::tick, mirror::tick), compare());
+            return differ("tick", box::tick, mirror::tick);
         }
         if (what < 19) {
             int k = any(-1, 8);
             int v = oneOf(8) ? random.nextInt() : any(-3, 12);
             latest = "sense " + k + " " + v;
-            return firstOf(differ("sense", () -> box.sense(k, v) ? 1 : 0, () -> mirror.sense(k, v) ? 1 : 0), compare());
+            return differ("sense", () -> box.sense(k, v) ? 1 : 0, () -> mirror.sense(k, v) ? 1 : 0);
         }
         int n = any(-1, 40);
         latest = "feed, end " + n;
@@ -238,15 +241,38 @@ public final class MirrorTest {
         return null;
     }
 
-    private String compare() {
+    /** The CHECK of a frame stands for the rest of it, so that few calls tell much. */
+    private String compareSome() {
+        int k = any(-1, 32);
+        int what = any(-1, 6);
+        int id = any(0, 20);
+        int i = any(-1, 6);
+        int place = oneOf(2) ? any(0, 80) : any(4000, 4096);
+        String difference = firstOf(differ("word", box::word, mirror::word),
+            differ("value(" + k + ")", () -> box.value(k), () -> mirror.value(k)),
+            differ("state(" + what + ")", () -> box.state(what), () -> mirror.state(what)),
+            differ("limit(" + id + ")", () -> box.limit(id, k & 1), () -> mirror.limit(id, k & 1)),
+            differ("entry(" + i + ")", () -> box.entry(i, id % 4), () -> mirror.entry(i, id % 4)),
+            differ("memory(" + place + ")", () -> box.memory(place), () -> mirror.memory(place)));
+        for (int f = 0; f < frames && difference == null && now > 0; f++) {
+            int frame = f;
+            int any = any(0, length - 1);
+            difference = firstOf(differ("down", () -> box.down(frame, length - 2), () -> mirror.down(frame, length - 2)),
+                differ("down", () -> box.down(frame, length - 1), () -> mirror.down(frame, length - 1)),
+                differ("down", () -> box.down(frame, any), () -> mirror.down(frame, any)));
+        }
+        return difference;
+    }
+
+    private String compareAll() {
         return firstOf(differ("word", box::word, mirror::word),
             differAnywhere("value", 0, 31, 1, (k, none) -> box.value(k), (k, none) -> mirror.value(k)),
             differAnywhere("state", 0, 5, 1, (k, none) -> box.state(k), (k, none) -> mirror.state(k)),
-            differAnywhere("limit", 0, 255, 2, box::limit, mirror::limit),
+            differAnywhere("limit", 0, 21, 2, box::limit, mirror::limit),
             differAnywhere("entry", 0, box.value(20) - 1, 3, box::entry, mirror::entry),
-            differAnywhere("memory", 0, 350, 1, (k, none) -> box.memory(k), (k, none) -> mirror.memory(k)),
-            differAnywhere("memory", 4000, 4096, 1, (k, none) -> box.memory(k), (k, none) -> mirror.memory(k)),
-            latest.equals("tick") ? differAnywhere("down", 0, frames - 1, length, box::down, mirror::down) : null);
+            differAnywhere("memory", 0, 80, 1, (k, none) -> box.memory(k), (k, none) -> mirror.memory(k)),
+            differAnywhere("memory", 4050, 4096, 1, (k, none) -> box.memory(k), (k, none) -> mirror.memory(k)),
+            now > 0 ? differAnywhere("down", 0, frames - 1, length, box::down, mirror::down) : null);
     }
 
     private interface Asking {

@@ -19,7 +19,7 @@ public final class Promise01NewObjectTest {
     }
 
     private static void everythingIsAtItsBeginning() {
-        OrbitBox box = new OrbitBox(4, 100, 2, 3, 500);
+        Box box = new Box(4, 100, 2, 3, 500);
         for (int k = 0; k < 32; k++) {
             expect.same("value(" + k + ")", box.value(k), k == 16 || k == 18 ? 1 : 0);
         }
@@ -43,7 +43,7 @@ public final class Promise01NewObjectTest {
         int[][] askedAndDue = {{Integer.MIN_VALUE, 64}, {63, 64}, {64, 64}, {65, 65}, {255, 255}, {256, 256},
             {257, 256}, {Integer.MAX_VALUE, 256}};
         for (int[] row : askedAndDue) {
-            OrbitBox box = new OrbitBox(1, row[0], 1, 1, 64);
+            Box box = new Box(1, row[0], 1, 1, 64);
             box.tick();
             int last = row[1] - 1;
             expect.yes("the last byte is there, length " + row[0], box.down(0, last) >= 0);
@@ -54,7 +54,7 @@ public final class Promise01NewObjectTest {
     private static void framesATickAreTheNearest() {
         int[][] askedAndDue = {{-5, 1}, {0, 1}, {1, 1}, {2, 2}, {3, 3}, {4, 4}, {5, 4}, {Integer.MAX_VALUE, 4}};
         for (int[] row : askedAndDue) {
-            OrbitBox box = new OrbitBox(1, 64, row[0], 1, 64);
+            Box box = new Box(1, 64, row[0], 1, 64);
             box.tick();
             expect.yes("the last frame is there, frames " + row[0], box.down(row[1] - 1, 0) == 21);
             expect.nothingThere("a frame more, frames " + row[0], () -> box.down(row[1], 0));
@@ -93,20 +93,21 @@ public final class Promise01NewObjectTest {
     }
 
     private static void storeIsTheNearest() {
-        // A test's report has 19 bytes, so the store holds as many as go into it.
-        int[][] askedAndDue = {{Integer.MIN_VALUE, 64}, {63, 64}, {64, 64}, {75, 75}, {76, 76}, {2000, 2000},
+        // Event 2 raises itself 64 times a tick, and the report of each has 24 bytes.
+        int[] raise = Ground.join(Ground.row(3, 2), Ground.int4(0));
+        int[][] askedAndDue = {{Integer.MIN_VALUE, 64}, {63, 64}, {64, 64}, {71, 71}, {72, 72}, {2000, 2000},
             {16384, 16384}, {16385, 16384}, {Integer.MAX_VALUE, 16384}};
         for (int[] row : askedAndDue) {
             Station s = new Station(1, 256, 4, 1, row[0]);
-            s.order(15, 1, 17);
-            for (int i = 0; i < 900; i++) {
-                s.order(17, 1);
-                if (i % 8 == 6) {
-                    s.tick();
-                }
+            s.order(15, 1, 5);
+            s.order(19, 1, Ground.join(Ground.row(2), Ground.command(1, 0, 8, 1, raise)));
+            s.order(19, 4, 2);
+            for (int t = 0; t < 12; t++) {
+                s.order(8, 1, raise);
+                s.box.tick();
             }
-            expect.same("packets in a store of " + row[0], s.box.value(28), row[1] / 19);
-            expect.same("bytes in a store of " + row[0], s.box.state(3), row[1] / 19 * 19);
+            expect.same("packets in a store of " + row[0], s.box.value(28), row[1] / 24);
+            expect.same("bytes in a store of " + row[0], s.box.state(3), row[1] / 24 * 24);
             storeIsFilledToTheLastByte(row[0], row[1]);
         }
     }

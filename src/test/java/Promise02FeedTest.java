@@ -12,7 +12,7 @@ public final class Promise02FeedTest {
     private static void highestByteComesFirst() {
         // A frame beside the turn with the body 1, written out as the ints that carry it.
         int[] sent = Ground.transmission(Ground.frame(Ground.BYPASS, 0, 1));
-        OrbitBox box = new OrbitBox(1, 64, 1, 1, 64);
+        Box box = new Box(1, 64, 1, 1, 64);
         int[] ints = new int[10];
         for (int i = 0; i < sent.length; i++) {
             ints[i / 4] = ints[i / 4] | sent[i] << 24 - i % 4 * 8;
@@ -25,7 +25,7 @@ public final class Promise02FeedTest {
     }
 
     private static void tapeHolds4096Bytes() {
-        OrbitBox box = new OrbitBox(1, 64, 1, 1, 64);
+        Box box = new Box(1, 64, 1, 1, 64);
         for (int i = 0; i < 204; i++) {
             expect.yes("feed " + i, box.feed(i, i, i, i, i));
         }
@@ -43,7 +43,7 @@ public final class Promise02FeedTest {
     }
 
     private static void fullTapeStaysAsItIs() {
-        OrbitBox box = new OrbitBox(1, 64, 1, 1, 64);
+        Box box = new Box(1, 64, 1, 1, 64);
         for (int i = 0; i < 203; i++) {
             box.feed(0, 0, 0, 0, 0);
         }

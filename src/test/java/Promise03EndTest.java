@@ -3,7 +3,7 @@ public final class Promise03EndTest {
     private static final Expect expect = new Expect();
 
     public static void main(String[] args) {
-        OrbitBox box = new OrbitBox(1, 64, 1, 1, 64);
+        Box box = new Box(1, 64, 1, 1, 64);
         expect.yes("0 of 0", box.end(0));
         expect.no("1 of 0", box.end(1));
         expect.no("-1 of 0", box.end(-1));
@@ -23,7 +23,7 @@ public final class Promise03EndTest {
 
     private static void firstBytesStay() {
         int[] sent = Ground.transmission(Ground.frame(Ground.BYPASS, 0, 1));
-        OrbitBox box = new OrbitBox(1, 64, 1, 1, 64);
+        Box box = new Box(1, 64, 1, 1, 64);
         Ground.load(box, Ground.join(sent, sent));
         expect.yes("the first alone", box.end(sent.length));
         expect.same("one came", box.uplink(), 1);

@@ -23,16 +23,16 @@ public final class Promise04GateTest {
         expect.end();
     }
 
-    private static OrbitBox box() {
-        return new OrbitBox(1, 64, 1, 1, 64);
+    private static Box box() {
+        return new Box(1, 64, 1, 1, 64);
     }
 
-    private static int send(OrbitBox box, int flags, int number, int... body) {
+    private static int send(Box box, int flags, int number, int... body) {
         return Ground.up(box, Ground.transmission(Ground.frame(flags, number, body)));
     }
 
     private static void refused(String what, int... frame) {
-        OrbitBox box = box();
+        Box box = box();
         expect.same(what, Ground.up(box, Ground.transmission(frame)), 0);
         expect.same(what + ": refused", box.value(23), 1);
         expect.same(what + ": the gate as it was", box.word(), 1 << 24);
@@ -89,7 +89,7 @@ public final class Promise04GateTest {
     }
 
     private static void framesInTurn() {
-        OrbitBox box = box();
+        Box box = box();
         expect.same("0", send(box, AD, 0, 1), 1);
         expect.same("1", send(box, AD, 1, 1), 1);
         expect.same("next", box.value(19), 2);
@@ -107,7 +107,7 @@ public final class Promise04GateTest {
 
     private static void distanceDecides() {
         for (int d = 0; d < 256; d++) {
-            OrbitBox box = box();
+            Box box = box();
             send(box, BC, 0, 130, 0, 100);
             int came = send(box, AD, (100 + d) % 256, 1);
             boolean locked = d >= 10 && d <= 245;
@@ -128,8 +128,8 @@ public final class Promise04GateTest {
         }
     }
 
-    private static OrbitBox full() {
-        OrbitBox box = box();
+    private static Box full() {
+        Box box = box();
         for (int i = 0; i < 8; i++) {
             expect.same("place " + i, send(box, AD, i, 1), 1);
         }
@@ -137,7 +137,7 @@ public final class Promise04GateTest {
     }
 
     private static void fullQueueMakesItWait() {
-        OrbitBox box = full();
+        Box box = full();
         expect.same("full", box.value(21), 8);
         expect.same("open", box.value(18), 1);
         expect.same("the ninth", send(box, AD, 8, 1), 0);
@@ -151,7 +151,7 @@ public final class Promise04GateTest {
         expect.same("AGAIN stays", box.word(), 1 << 24 | 1 << 11 | 8);
         expect.same("the ninth once more", send(box, AD, 8, 1), 1);
         expect.same("AGAIN is off", box.word(), 1 << 24 | 9);
-        OrbitBox unlocked = full();
+        Box unlocked = full();
         send(unlocked, AD, 8, 1);
         send(unlocked, BC, 0, 0);
         expect.same("UNLOCK opens it", unlocked.word(), 1 << 24 | 1 << 9 | 8);
@@ -162,7 +162,7 @@ public final class Promise04GateTest {
     }
 
     private static void lockedWhileWaiting() {
-        OrbitBox box = full();
+        Box box = full();
         send(box, AD, 8, 1);
         send(box, AD, 18, 1);
         expect.same("locked, with WAITS and AGAIN", box.word(), 1 << 24 | 7 << 11 | 8);
@@ -172,7 +172,7 @@ public final class Promise04GateTest {
     }
 
     private static void besideTheTurn() {
-        OrbitBox box = box();
+        Box box = box();
         for (int i = 0; i < 8; i++) {
             expect.same("place " + i, send(box, BD, 77, 1), 1);
             expect.same("BESIDE", box.word(), 1 << 24 | (i + 1) % 4 << 9);
@@ -186,7 +186,7 @@ public final class Promise04GateTest {
     }
 
     private static void setAndUnlock() {
-        OrbitBox box = box();
+        Box box = box();
         expect.same("SET is not counted", send(box, BC, 0, 130, 0, 200), 0);
         expect.same("next", box.value(19), 200);
         expect.same("BESIDE", box.word(), 1 << 24 | 1 << 9 | 200);
@@ -204,7 +204,7 @@ public final class Promise04GateTest {
     }
 
     private static void nextGoesRound() {
-        OrbitBox box = box();
+        Box box = box();
         send(box, BC, 0, 130, 0, 255);
         expect.same("255", send(box, AD, 255, 1), 1);
         expect.same("next", box.value(19), 0);

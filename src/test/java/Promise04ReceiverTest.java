@@ -20,15 +20,15 @@ public final class Promise04ReceiverTest {
         expect.end();
     }
 
-    private static OrbitBox box() {
-        return new OrbitBox(1, 64, 1, 1, 64);
+    private static Box box() {
+        return new Box(1, 64, 1, 1, 64);
     }
 
     private static void markMayHaveOneWrongBit() {
         for (int i = 0; i < 16; i++) {
             expect.same("bit " + i + " of the mark turned", Ground.up(box(), Ground.turned(SENT, i)), 1);
             for (int j = i + 1; j < 16; j++) {
-                OrbitBox box = box();
+                Box box = box();
                 int[] two = Ground.turned(Arrays.copyOf(SENT, 2), i, j);
                 expect.same("bits " + i + " and " + j + " turned", Ground.up(box, two), 0);
                 expect.same("still searching", box.state(5), 0);
@@ -49,7 +49,7 @@ public final class Promise04ReceiverTest {
     private static void markMayStandAnywhere() {
         for (int by = 0; by < 8; by++) {
             expect.same("later by " + by + " bits", Ground.up(box(), shifted(SENT, by)), 1);
-            OrbitBox box = box();
+            Box box = box();
             Ground.up(box, Ground.join(Ground.row(0, 0, 0), shifted(Ground.MARK, by)));
             expect.same("collecting, " + by, box.state(5), 1);
         }
@@ -57,13 +57,13 @@ public final class Promise04ReceiverTest {
 
     private static void markNeedsSixteenBits() {
         // Fifteen bits that would do, were there a 0 before them.
-        OrbitBox box = box();
+        Box box = box();
         int[] fifteen = {0b11010111, 0b00100000};
         Ground.up(box, fifteen[0]);
         expect.same("eight bits are no mark", box.state(5), 0);
         Ground.up(box, fifteen[1]);
         expect.same("the sixteenth makes it another row", box.state(5), 0);
-        OrbitBox eight = box();
+        Box eight = box();
         Ground.up(eight, 0xEB);
         expect.same("half the mark", eight.state(5), 0);
         Ground.up(eight, 0x90);
@@ -73,7 +73,7 @@ public final class Promise04ReceiverTest {
     private static void bitsOfABlockAreNoMark() {
         // A block that is WRONG and ends with the mark's first half: the search begins behind it.
         int[] wrong = {1, 2, 3, 4, 5, 6, 7, 0xEB};
-        OrbitBox box = box();
+        Box box = box();
         Ground.up(box, Ground.join(Ground.MARK, wrong));
         expect.same("it was wrong", box.state(5), 0);
         Ground.up(box, 0x90);
@@ -83,12 +83,12 @@ public final class Promise04ReceiverTest {
 
     private static void oneWrongBitOfABlockIsPutRight() {
         for (int bit = 0; bit < 64; bit++) {
-            OrbitBox box = box();
+            Box box = box();
             expect.same("bit " + bit + " turned", Ground.up(box, Ground.turned(SENT, 16 + bit)), 1);
             expect.same("put right, bit " + bit, box.value(22), bit == 63 ? 0 : 1);
             expect.same("nothing refused", box.value(23), 0);
         }
-        OrbitBox box = box();
+        Box box = box();
         expect.same("one in each block", Ground.up(box, Ground.turned(SENT, 16 + 5, 16 + 64 + 60, 16 + 128 + 1)), 1);
         expect.same("each put right", box.value(22), 3);
         expect.same("a right one is not counted", Ground.up(box, SENT), 1);
@@ -98,7 +98,7 @@ public final class Promise04ReceiverTest {
     private static void twoWrongBitsEndTheFrame() {
         for (int i = 0; i < 63; i += 5) {
             for (int j = i + 1; j < 63; j += 3) {
-                OrbitBox box = box();
+                Box box = box();
                 int[] sent = Ground.turned(SENT, 16 + 64 + i, 16 + 64 + j);
                 Ground.up(box, Arrays.copyOf(sent, 2 + 16));
                 expect.same("two wrong bits", box.state(5), 0);
@@ -109,7 +109,7 @@ public final class Promise04ReceiverTest {
     }
 
     private static void wrongBlockAloneIsNoFrame() {
-        OrbitBox box = box();
+        Box box = box();
         expect.same("nothing came", Ground.up(box, Ground.join(Ground.MARK, Ground.WRONG_BLOCK)), 0);
         expect.same("nothing refused", box.value(23), 0);
         expect.same("searching", box.state(5), 0);
@@ -122,7 +122,7 @@ public final class Promise04ReceiverTest {
         Arrays.fill(body, 7);
         int[] longest = Ground.join(Ground.MARK, Ground.blocks(Ground.frame(Ground.BYPASS, 0, body)));
         expect.same("37 blocks", longest.length, 2 + 37 * 8);
-        OrbitBox box = box();
+        Box box = box();
         expect.same("all but the last block", Ground.up(box, Arrays.copyOf(longest, 2 + 36 * 8)), 0);
         expect.same("collecting", box.state(5), 1);
         expect.same("the last block", Ground.up(box, Arrays.copyOfRange(longest, 2 + 36 * 8, longest.length)), 1);
@@ -133,7 +133,7 @@ public final class Promise04ReceiverTest {
     }
 
     private static void everythingStaysFromOneUplinkToTheNext() {
-        OrbitBox box = box();
+        Box box = box();
         int came = 0;
         for (int i = 0; i < SENT.length; i++) {
             came += Ground.up(box, SENT[i]);
@@ -143,7 +143,7 @@ public final class Promise04ReceiverTest {
     }
 
     private static void severalFramesInOneUplink() {
-        OrbitBox box = box();
+        Box box = box();
         int[] noise = {0, 255, 17, 34};
         int[] bad = Ground.transmission(1, 2, 3, 4, 5, 6, 7, 8, 9);
         expect.same("three come", Ground.up(box, Ground.join(SENT, noise, SENT, bad, noise, SENT)), 3);

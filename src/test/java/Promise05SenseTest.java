@@ -3,7 +3,7 @@ public final class Promise05SenseTest {
     private static final Expect expect = new Expect();
 
     public static void main(String[] args) {
-        OrbitBox box = new OrbitBox(1, 64, 1, 1, 64);
+        Box box = new Box(1, 64, 1, 1, 64);
         for (int k = 0; k < 8; k++) {
             expect.yes("sensor " + k, box.sense(k, 100 - 50 * k));
         }

@@ -47,15 +47,19 @@ public final class Promise06ReportsAndStoreTest {
 
     private static void reportsAreCounted() {
         Station s = new Station();
+        for (int id = 0; id < 8; id++) {
+            s.order(3, 1, id, 1, 1, 17);
+        }
+        s.tick();
+        for (int id = 0; id < 8; id++) {
+            s.order(3, 5, id);
+        }
         for (int t = 0; t < 40; t++) {
-            for (int i = 0; i < 8; i++) {
-                s.order(17, 1);
-            }
             s.tick();
             for (int i = 0; i < 8; i++) {
                 expect.same("in all", s.reports.get(i).number(), 8 * t + i);
-                expect.same("of 17 2", s.reports.get(i).series(), 8 * t + i);
-                expect.same("clock", s.reports.get(i).clock(), t + 1);
+                expect.same("of 3 25", s.reports.get(i).series(), 8 * t + i);
+                expect.same("clock", s.reports.get(i).clock(), t + 2);
             }
         }
     }
@@ -270,7 +274,7 @@ public final class Promise06ReportsAndStoreTest {
 
     /** A store with 32 reports of 277 bytes at the ticks 2 to 5, more than channel 1 can hold. */
     private static Station withMuch() {
-        Station s = new Station(1, 64, 1, 1, 16384);
+        Station s = new Station(1, 256, 1, 1, 16384);
         s.order(15, 1, 6);
         s.tick();
         for (int t = 2; t <= 5; t++) {
@@ -285,15 +289,21 @@ public final class Promise06ReportsAndStoreTest {
         return s;
     }
 
+    /** Of the reports that came back with the latest tick, and with those till nothing waits. */
     private static String seriesUntilSilent(Station s) {
         List<String> all = new ArrayList<>();
+        addSeries(s, all);
         for (int t = 0; t < 1000 && s.box.state(0) > 0; t++) {
             s.tick();
-            for (Station.Report r : s.replay) {
-                all.add(Integer.toString(r.series()));
-            }
+            addSeries(s, all);
         }
         return String.join(" ", all);
+    }
+
+    private static void addSeries(Station s, List<String> all) {
+        for (Station.Report r : s.replay) {
+            all.add(Integer.toString(r.series()));
+        }
     }
 
     private static String series(int from, int to) {
@@ -308,7 +318,7 @@ public final class Promise06ReportsAndStoreTest {
         Station s = withMuch();
         s.order(15, 9, span(2, 5));
         s.tick();
-        expect.same("14 go into channel 1", s.box.state(0), 14 * 277 - 52);
+        expect.same("14 go into channel 1", s.box.state(0), 14 * 277 - 244);
         expect.same("under way", s.box.state(2), 1);
         expect.same("one is under way", s.tryOut(15, 9, span(0, 1)), 28);
         expect.text("each once and in order", seriesUntilSilent(s), series(0, 31));
@@ -361,8 +371,8 @@ public final class Promise06ReportsAndStoreTest {
         s.tick();
         expect.same("stopped", s.tryOut(15, 12), 0);
         expect.same("over", s.box.state(2), 0);
-        expect.same("none is under way any more", s.tryOut(15, 12), 28);
         expect.text("what waited in the channel comes", seriesUntilSilent(s), series(0, 13));
+        expect.same("none is under way any more", s.tryOut(15, 12), 28);
         s.order(15, 9, span(2, 5));
         s.tick();
         expect.text("from the oldest on again", seriesUntilSilent(s), series(0, 31));

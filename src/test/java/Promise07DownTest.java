@@ -24,7 +24,7 @@ public final class Promise07DownTest {
     }
 
     private static void nothingBeforeTheFirstTick() {
-        OrbitBox box = new OrbitBox(1, 64, 1, 1, 64);
+        Box box = new Box(1, 64, 1, 1, 64);
         expect.nothingThere("down before a tick", () -> box.down(0, 0));
     }
 
@@ -129,19 +129,17 @@ public final class Promise07DownTest {
     }
 
     private static void countsGoRound() {
+        // One form every other tick, in three frames of a tick.
         Station s = new Station(1, 64, 3, 1, 64);
+        s.order(3, 1, 1, 2, 1, 17);
+        s.order(3, 5, 1);
         int busy = 0;
         for (int t = 0; t < 300; t++) {
-            if (t % 2 == 0) {
-                s.order(17, 1);
-            }
-            s.tick();
+            s.box.tick();
             for (int f = 0; f < 3; f++) {
-                int[] frame = s.frame(f);
-                boolean idle = (frame[1] >>> 1 & 7) == 7;
-                expect.same("in all", frame[2], (3 * t + f) % 256);
-                expect.same("of its channel", frame[3], (idle ? 3 * t + f - busy : busy) % 256);
-                expect.same("check", Ground.check(frame), 0);
+                boolean idle = (s.box.down(f, 1) >>> 1 & 7) == 7;
+                expect.same("in all", s.box.down(f, 2), (3 * t + f) % 256);
+                expect.same("of its channel", s.box.down(f, 3), (idle ? 3 * t + f - busy : busy) % 256);
                 busy += idle ? 0 : 1;
             }
         }
@@ -179,7 +177,7 @@ public final class Promise07DownTest {
     }
 
     private static void onlyWhatIsThere() {
-        OrbitBox box = new OrbitBox(1, 80, 2, 1, 64);
+        Box box = new Box(1, 80, 2, 1, 64);
         box.tick();
         int[] wrongFrames = {-1, 2, 3, Integer.MIN_VALUE, Integer.MAX_VALUE};
         int[] wrongBytes = {-1, 80, 81, 256, Integer.MIN_VALUE, Integer.MAX_VALUE};

@@ -45,7 +45,7 @@ public final class Promise08ValueTest {
     }
 
     private static void gateAndReceiver() {
-        OrbitBox box = new OrbitBox(1, 64, 1, 1, 64);
+        Box box = new Box(1, 64, 1, 1, 64);
         expect.same("open", box.value(18), 1);
         int[] sent = Ground.transmission(Ground.frame(0, 0, 9));
         Ground.up(box, Ground.turned(sent, 40, 100));
@@ -116,7 +116,7 @@ public final class Promise08ValueTest {
     }
 
     private static void otherNumbersAreNone() {
-        OrbitBox box = new OrbitBox(1, 64, 1, 1, 64);
+        Box box = new Box(1, 64, 1, 1, 64);
         int[] wrong = {-1, -2, 32, 33, 255, Integer.MIN_VALUE, Integer.MAX_VALUE};
         for (int k : wrong) {
             expect.nothingThere("value(" + k + ")", () -> box.value(k));

