@@ -142,7 +142,7 @@ public final class EdgesCommandTest extends Edges {
     }
 
     private static void anotherLength() {
-        sentence("7: the DATA has another length than it must have; What has no DATA wants none.");
+        sentence("7: the DATA has another length than it must have ... What has no DATA wants none.");
         for (int[] known : LENGTHS) {
             String kind = known[0] + " " + known[1];
             for (int length = 0; length <= known[2] + 2; length++) {
@@ -244,7 +244,7 @@ public final class EdgesCommandTest extends Edges {
     }
 
     private static void wishesWithoutFailure() {
-        sentence("if WISHES has 1, a REPORT 1 1; if WISHES has 2, a REPORT 1 3; it is done; if WISHES has 8, a REPORT 1 7");
+        sentence("if WISHES has 1, a REPORT 1 1 ... if WISHES has 2, a REPORT 1 3 ... it is done; if WISHES has 8, a REPORT 1 7");
         for (int wishes = 0; wishes < 16; wishes++) {
             Station s = new Station();
             s.sendPacket(Ground.command(0x1234, wishes, 17, 1));
@@ -272,7 +272,7 @@ public final class EdgesCommandTest extends Edges {
     }
 
     private static void wishesWithFault() {
-        sentence("With a FAULT a REPORT 1 2 is made of its first four bytes and the FAULT. Else, if WISHES has 1");
+        sentence("With a FAULT a REPORT 1 2 is made of its first four bytes ... Else, if WISHES has 1");
         for (int wishes = 0; wishes < 16; wishes++) {
             Station s = new Station();
             s.sendPacket(Ground.command(7, wishes, 17, 1, 0));

@@ -16,6 +16,7 @@ public final class EdgesDownTest extends Edges {
         emptyPacketOfSevenAtLeast();
         tooMuchWaitsAhead();
         tooMuchOfChannelOne();
+        aByteWaitsInChannelOne();
         emptyBytesCountAsWaiting();
         longestEmptyPacket();
         firstAtTheBeginning();
@@ -256,6 +257,22 @@ public final class EdgesDownTest extends Edges {
         }
     }
 
+    private static void aByteWaitsInChannelOne() {
+        sentence("else of 1 if one does, else of 7.");
+        for (int left = 1; left <= 8; left++) {
+            Station s = new Station(1, 64, 1, 1, 1000);
+            s.order(15, 1, 6);
+            dump(s, 52 - left);
+            ticks(s, 2);
+            s.order(15, 9, span(0, 9));
+            s.tick();
+            same("what waits, left " + left, s.box.state(0), Math.max(0, 7 - left));
+            same("busy, left " + left, s.tick(), left < 7 ? 1 : 0);
+            same("the channel, left " + left, channel(s, 0), left < 7 ? 1 : 7);
+            same("nothing waits", s.box.state(0), 0);
+        }
+    }
+
     private static void emptyBytesCountAsWaiting() {
         sentence("29 bytes that wait in channel 0 (also of EMPTY packets)");
         Station s = new Station(1, 64, 1, 1, 64);
@@ -391,7 +408,7 @@ public final class EdgesDownTest extends Edges {
     }
 
     private static void noSuchFrame() {
-        sentence("Byte k of frame f; NoSuchElementException if there is none such.");
+        sentence("Byte k of frame f, from 0 on ... NoSuchElementException if there is none such.");
         for (int frames = 1; frames <= 4; frames++) {
             Box box = new Box(1, 64, frames, 1, 64);
             box.tick();
@@ -403,7 +420,7 @@ public final class EdgesDownTest extends Edges {
     }
 
     private static void noSuchByte() {
-        sentence("Byte k of frame f; NoSuchElementException if there is none such.");
+        sentence("Byte k of frame f, from 0 on ... NoSuchElementException if there is none such.");
         for (int length : new int[] {64, 80, 256}) {
             Box box = new Box(1, length, 2, 1, 64);
             box.tick();

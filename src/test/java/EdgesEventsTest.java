@@ -21,6 +21,7 @@ public final class EdgesEventsTest extends Edges {
         exactly64AreWorked();
         atMost64AreThere();
         takenOutFirst();
+        lostWhenTheyAreRaised();
         raisedBehindTheWork();
         raisedBehindTheWorkTakesAPlace();
         noEvents();
@@ -228,7 +229,7 @@ public final class EdgesEventsTest extends Edges {
     }
 
     private static void untoldEventsAct() {
-        sentence("if it is told, a REPORT is made; then, if its action is there and on, that command is HANDLED.");
+        sentence("if it is told, a REPORT 5 ... then, if its action is there and on, that command is HANDLED.");
         Station s = new Station();
         s.order(5, 6, 5);
         s.order(19, 1, action(5, tellingTest(1)));
@@ -359,6 +360,21 @@ public final class EdgesEventsTest extends Edges {
         }
         yes("it was reported", s.told().startsWith("5 4, 5 4, 3 25, 5 4"));
         same("the eight that were raised by that are the rest", s.box.value(30), 8);
+    }
+
+    private static void lostWhenTheyAreRaised() {
+        sentence("at most 64 can be there, further ones are lost (parameter 30 is one more for each that is lost)");
+        // The first of 64 reports how many were lost when its work began.
+        Station s = withTimed(64, 20, 1);
+        s.order(3, 1, 1, 200, 1, 30);
+        s.order(19, 1, action(24, command(1, 3, 27, 1)));
+        s.order(19, 4, 24);
+        s.order(8, 1, raise(3, 0));
+        s.order(8, 1, raise(3, 0));
+        s.tick();
+        yes("it was reported", s.told().startsWith("5 4, 3 25"));
+        bytes("two were lost by then", s.reports.get(1).data(), 1, 0, 0, 0, 2);
+        same("and no more", s.box.value(30), 2);
     }
 
     private static void raisedBehindTheWork() {

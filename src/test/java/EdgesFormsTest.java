@@ -17,6 +17,7 @@ public final class EdgesFormsTest extends Edges {
         smallestAndLargestReport();
         everyDividesTheClock();
         largestEvery();
+        othersStayAsTheyWere();
         byIds();
         expect.end();
     }
@@ -29,6 +30,7 @@ public final class EdgesFormsTest extends Edges {
         sentence("13 (every or n is 0, n above 8, no such parameter)");
         Station s = new Station();
         same("every 0", s.tryOut(3, 1, form(1, 0, 5)), 13);
+        same("every 0 before other bytes", s.tryOut(3, 1, form(255, 0, 31, 31, 31)), 13);
         same("every 1", s.tryOut(3, 1, form(1, 1, 5)), 0);
         same("every 255", s.tryOut(3, 1, form(2, 255, 5)), 0);
     }
@@ -228,6 +230,32 @@ public final class EdgesFormsTest extends Edges {
         for (int t = 1; t <= 260; t++) {
             same("busy frames at " + t, s.box.tick(), t == 255 ? 1 : 0);
         }
+    }
+
+    private static void othersStayAsTheyWere() {
+        sentence("3 1: id (1), every (1), n (1), n parameters (1 each): a new FORM, not on");
+        Station s = new Station();
+        for (int k = 0; k < 8; k++) {
+            s.box.sense(k, 10 * k);
+        }
+        int[] ids = {100, 50, 200, 0, 75, 255, 25, 150};
+        for (int id : ids) {
+            s.tryOut(3, 1, form(id, 200, 7, 6, 5, 4, 3, 2, 1, id % 8));
+        }
+        for (int id : ids) {
+            reportIs(s, id);
+        }
+        s.tryOut(3, 3, 75);
+        s.tryOut(3, 3, 0);
+        for (int id : new int[] {100, 50, 200, 255, 25, 150}) {
+            reportIs(s, id);
+        }
+    }
+
+    private static void reportIs(Station s, int id) {
+        same("form " + id, s.tryOut(3, 27, id), 0);
+        int[] data = s.reports.get(0).data();
+        bytes("its report", row(data[0], data[4], data[8], data[28], data[32]), id, 70, 60, 10, id % 8 * 10);
     }
 
     private static void byIds() {

@@ -4,9 +4,11 @@ import java.util.Arrays;
 public final class EdgesFrameTest extends Edges {
     public static void main(String[] args) {
         everyBitOfTheHead();
+        everyBitOfTheHeadOfADirective();
         otherNumbers();
         leastLength();
         lengthAndBytes();
+        missingZeros();
         mostLength();
         bytesBehind();
         checkOfTheFrame();
@@ -43,6 +45,18 @@ public final class EdgesFrameTest extends Edges {
             accepted("as it must be", frame);
             for (int bit = 0; bit < 22; bit++) {
                 if (bit != 2 && bit != 3) {
+                    refused("bit " + bit + " turned", Ground.rechecked(Ground.turned(frame, bit)));
+                }
+            }
+        }
+    }
+
+    private static void everyBitOfTheHeadOfADirective() {
+        sentence("in this order of its bits, there are: 00, BYPASS (1 bit), CONTROL (1), 00, the number 346 (10), 000000");
+        for (int[] body : new int[][] {{0}, {130, 0, 5}}) {
+            int[] frame = Ground.frame(CONTROL, 0, body);
+            for (int bit = 0; bit < 22; bit++) {
+                if (bit != 3) {
                     refused("bit " + bit + " turned", Ground.rechecked(Ground.turned(frame, bit)));
                 }
             }
@@ -89,6 +103,27 @@ public final class EdgesFrameTest extends Edges {
         // 85 fills a block up: here what is missing would have been just that.
         int[] frame = Ground.frame(BESIDE, 0, filled(8, 85));
         refused("15 bytes of which 14 came", Arrays.copyOf(frame, 14));
+    }
+
+    /** A frame of 14 bytes and these more, which are all 0. */
+    private static int[] endingWithZeros(int more) {
+        for (int i = 0; i < 1 << 24; i++) {
+            int[] frame = Ground.frame(BESIDE, 0, join(filled(more + 4, 3), Ground.bytes(i, 3)));
+            if (frame[13 + more] == 0 && (more == 1 || frame[12 + more] == 0)) {
+                return frame;
+            }
+        }
+        throw new IllegalStateException("there is none such");
+    }
+
+    private static void missingZeros() {
+        sentence("there are LENGTH + 1 bytes or more");
+        for (int more = 1; more <= 2; more++) {
+            int[] frame = endingWithZeros(more);
+            same("bytes", frame.length, 14 + more);
+            accepted("with all its bytes", frame);
+            refused("what is missing is not 0", Arrays.copyOf(frame, 14));
+        }
     }
 
     private static void mostLength() {

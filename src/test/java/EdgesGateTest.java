@@ -29,6 +29,7 @@ public final class EdgesGateTest extends Edges {
         controlNeedsNoPlace();
         everyBitOfTheWord();
         waitingEndsWithATick();
+        waitingWhileTheQueueIsHandled();
         expect.end();
     }
 
@@ -327,6 +328,24 @@ public final class EdgesGateTest extends Edges {
         same("all are on", box.word(), 0b00000001_00000000_00_1_1_1_11_0_00001000);
         Box high = next(255);
         same("NEXT 255 and nothing else", high.word(), 0b00000001_00000000_00_0_0_0_00_0_11111111);
+    }
+
+    private static void waitingWhileTheQueueIsHandled() {
+        sentence("(3) The packets of the queue are HANDLED in order, each taken out first; then WAITS is off");
+        Station s = new Station();
+        s.order(3, 1, 1, 1, 2, 18, 21);
+        s.order(3, 5, 1);
+        for (int i = 0; i < 6; i++) {
+            s.order(3, 27, 1);
+        }
+        send(s.box, TURN, 0, 1);
+        same("waiting", s.box.value(18), 2);
+        s.tick();
+        same("six in the queue, and one of step 7", s.reports.size(), 7);
+        for (int i = 0; i < 7; i++) {
+            int[] due = i < 6 ? row(1, 0, 0, 0, 2, 0, 0, 0, 5 - i) : row(1, 0, 0, 0, 1, 0, 0, 0, 0);
+            bytes("STATE and packets at " + i, s.reports.get(i).data(), due);
+        }
     }
 
     private static void waitingEndsWithATick() {

@@ -8,6 +8,8 @@ public final class EdgesLimitsTest extends Edges {
         noSuchEvent();
         idIsThere();
         sixteenLimits();
+        othersStayAsTheyWere();
+        newOnceMore();
         firstFailureOfANewLimit();
         refusedLimitChangesNothing();
         noSuchLimitToSwitch();
@@ -35,6 +37,7 @@ public final class EdgesLimitsTest extends Edges {
         sentence("13 (times is 0, low above high, link above 1, no such parameter or event)");
         Station s = new Station();
         same("times 0", s.tryOut(12, 5, limit(1, 0, 0, 1, 2, 0, 0)), 13);
+        same("times 0 before other bytes", s.tryOut(12, 5, limit(1, 31, 0, -2, -1, 31, 1)), 13);
         same("times 1", s.tryOut(12, 5, limit(1, 0, 1, 1, 2, 0, 0)), 0);
         same("times 255", s.tryOut(12, 5, limit(2, 0, 255, 1, 2, 0, 0)), 0);
     }
@@ -110,6 +113,46 @@ public final class EdgesLimitsTest extends Edges {
         same("one goes", s.tryOut(12, 6, 75), 0);
         same("a place", s.tryOut(12, 5, limit(1, 0, 1, 1, 2, 0, 0)), 0);
         same("one place", s.tryOut(12, 5, limit(2, 0, 1, 1, 2, 0, 0)), 26);
+    }
+
+    private static void othersStayAsTheyWere() {
+        sentence("12 5: id (1), parameter (1), times (1), low (4), high (4), e (1), link (1): a new limit, off");
+        int[] ids = {100, 50, 200, 0, 255};
+        for (int linked : ids) {
+            Station s = new Station(1, 256, 4, 100, 64);
+            for (int id : ids) {
+                s.order(12, 5, limit(id, 3, 1, 5, 6, id % 32, id == linked ? 1 : 0));
+            }
+            s.order(12, 5, limit(7, 4, 1, 5, 6, 7, 0));
+            s.tick();
+            s.order(12, 6, 7);
+            s.tick();
+            int alarm = NONE;
+            for (int id : ids) {
+                s.order(12, 1, id);
+                s.tick();
+                alarm = id == linked ? s.box.value(17) + 99 : alarm;
+                bytes("the event of " + id, s.reports.get(0).data(), id % 32, 0, 0, 0, 0);
+                same("the ALARM behind " + id + ", linked is " + linked, s.box.state(1), alarm);
+            }
+        }
+    }
+
+    private static void newOnceMore() {
+        sentence("12 5: id (1), parameter (1), times (1), low (4), high (4), e (1), link (1): a new limit, off");
+        Station s = new Station();
+        s.order(12, 5, limit(7, 0, 9, 5, 6, 20, 1));
+        s.order(12, 1, 7);
+        ticks(s, 3);
+        same("its count", s.box.limit(7, 1), 3);
+        s.order(12, 2, 7);
+        s.order(12, 6, 7);
+        s.order(12, 5, limit(7, 0, 9, 5, 6, 20, 1));
+        s.tick();
+        same("off", s.box.limit(7, 0), 0);
+        same("its count", s.box.limit(7, 1), 0);
+        s.tick();
+        same("it is not watched", s.box.limit(7, 1), 0);
     }
 
     private static void firstFailureOfANewLimit() {

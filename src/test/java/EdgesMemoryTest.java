@@ -93,6 +93,7 @@ public final class EdgesMemoryTest extends Edges {
         Station s = new Station();
         s.tryOut(6, 2, join(int2(4094), row(2, 5, 6)));
         same("the last two", s.tryOut(6, 5, join(int2(4094), row(2))), 0);
+        text("the report", s.told(), "6 6");
         bytes("the last two", s.reports.get(0).data(), 15, 254, 2, 5, 6);
         same("one beyond", s.tryOut(6, 5, join(int2(4094), row(3))), 17);
         text("no dump", s.told(), "1 4");
@@ -119,6 +120,7 @@ public final class EdgesMemoryTest extends Edges {
         Station s = new Station();
         s.tryOut(6, 2, join(int2(4095), row(1, 255)));
         same("the last byte", s.tryOut(6, 9, join(int2(4095), int2(1))), 0);
+        text("the report", s.told(), "6 10");
         bytes("the last byte", s.reports.get(0).data(), 15, 255, 0, 1, 0xFF, 0);
         same("one beyond", s.tryOut(6, 9, join(int2(4095), int2(2))), 17);
         same("all but the first", s.tryOut(6, 9, join(int2(1), int2(4095))), 0);

@@ -25,7 +25,7 @@ public final class EdgesNewObjectTest extends Edges {
     }
 
     private static void entries() {
-        sentence("Entries that the timetable can have 1 .. 64 (what is less or more is the nearest of these)");
+        sentence("Entries that the timetable can have 1 .. 64 ... (what is less or more is the nearest of these)");
         int[][] askedAndDue = {{LEAST, 1}, {-1, 1}, {0, 1}, {1, 1}, {2, 2}, {63, 63}, {64, 64}, {65, 64}, {LARGEST, 64}};
         for (int[] pair : askedAndDue) {
             Station s = new Station(pair[0], 256, 4, 1, 64);
@@ -41,7 +41,7 @@ public final class EdgesNewObjectTest extends Edges {
     }
 
     private static void frameLength() {
-        sentence("LENGTH of frames 64 .. 256 (what is less or more is the nearest of these)");
+        sentence("LENGTH of frames 64 .. 256 ... (what is less or more is the nearest of these)");
         int[][] askedAndDue = {{LEAST, 64}, {-1, 64}, {0, 64}, {63, 64}, {64, 64}, {65, 65}, {255, 255}, {256, 256},
             {257, 256}, {LARGEST, 256}};
         for (int[] pair : askedAndDue) {
@@ -57,7 +57,7 @@ public final class EdgesNewObjectTest extends Edges {
     }
 
     private static void framesATick() {
-        sentence("frames a tick 1 .. 4 (what is less or more is the nearest of these)");
+        sentence("frames a tick 1 .. 4 ... (what is less or more is the nearest of these)");
         int[][] askedAndDue = {{LEAST, 1}, {-1, 1}, {0, 1}, {1, 1}, {2, 2}, {3, 3}, {4, 4}, {5, 4}, {LARGEST, 4}};
         for (int[] pair : askedAndDue) {
             Box box = new Box(1, 64, pair[0], 1, 64);
@@ -70,7 +70,7 @@ public final class EdgesNewObjectTest extends Edges {
     }
 
     private static void patience() {
-        sentence("PATIENCE 1 .. 100 (what is less or more is the nearest of these)");
+        sentence("PATIENCE 1 .. 100 ... (what is less or more is the nearest of these)");
         int[][] askedAndDue = {{LEAST, 1}, {-1, 1}, {0, 1}, {1, 1}, {2, 2}, {99, 99}, {100, 100}, {101, 100}, {LARGEST, 100}};
         for (int[] pair : askedAndDue) {
             Station s = new Station(1, 64, 1, pair[0], 64);
@@ -113,17 +113,23 @@ public final class EdgesNewObjectTest extends Edges {
 
     private static void storeToItsLastByte() {
         sentence("bytes of the store 64 .. 16384");
-        for (int store : new int[] {64, 65}) {
-            for (int n = 41; n <= 44; n++) {
+        for (int store : new int[] {LEAST, 0, 63, 64, 65, 66}) {
+            for (int n = 41; n <= 45; n++) {
                 Station s = new Station(1, 64, 1, 1, store);
                 s.order(15, 1, 6);
                 s.order(6, 5, 0, 0, n);
                 s.box.tick();
-                same(n + 22 + " bytes in " + store, s.box.state(3), n + 22 <= store ? n + 22 : 0);
+                same(n + 22 + " bytes in " + store, s.box.state(3), n + 22 <= Math.max(store, 64) ? n + 22 : 0);
             }
         }
+        mostOfTheStore(16384);
+        mostOfTheStore(16385);
+        mostOfTheStore(LARGEST);
+    }
+
+    private static void mostOfTheStore(int asked) {
         for (int over = 0; over < 2; over++) {
-            Station s = new Station(1, 64, 1, 1, 16384);
+            Station s = new Station(1, 64, 1, 1, asked);
             s.order(15, 1, 6);
             for (int i = 0; i < 59; i++) {
                 s.order(6, 5, 0, 0, 255);
@@ -131,8 +137,8 @@ public final class EdgesNewObjectTest extends Edges {
             }
             s.order(6, 5, 0, 0, 16384 - 59 * 277 - 22 + over);
             s.box.tick();
-            same("packets, too many by " + over, s.box.value(28), 60 - over);
-            same("bytes, too many by " + over, s.box.state(3), over == 0 ? 16384 : 16385 - 277);
+            same("packets, too many by " + over + ", asked for " + asked, s.box.value(28), 60 - over);
+            same("bytes, too many by " + over + ", asked for " + asked, s.box.state(3), over == 0 ? 16384 : 16385 - 277);
         }
     }
 

@@ -9,6 +9,7 @@ public final class EdgesReportsTest extends Edges {
         clockOfEach();
         justRoomInTheChannel();
         fullChannel();
+        emptyBytesTakeRoom();
         shorterOnesBehindALostOne();
         lostOnesAreStored();
         storedFromItsCommandOn();
@@ -173,6 +174,29 @@ public final class EdgesReportsTest extends Edges {
         s.box.tick();
         same("both behind it are lost", s.box.value(27), 2);
         same("full but for the frame", s.box.value(29), 4096 - 52);
+    }
+
+    private static void emptyBytesTakeRoom() {
+        sentence("Channels 0 and 1 are rows of at most 4,096 bytes that wait.");
+        for (int left = 1; left <= 7; left++) {
+            Station s = new Station(1, 64, 1, 1, 64);
+            s.order(19, 1, action(2, Ground.command(1, 11, 8, 1, raise(2, 0))));
+            s.order(19, 4, 2);
+            s.order(6, 5, 0, 0, 52 - left - 22);
+            s.box.tick();
+            same("of the EMPTY packet wait", s.box.value(29), 7 - left);
+            s.order(8, 1, raise(2, 0));
+            s.box.tick();
+            int waiting = 7 - left;
+            int lost = 0;
+            for (int i = 0; i < 64 * 4; i++) {
+                int length = i % 4 == 0 ? 24 : 23;
+                lost += waiting + length > 4096 ? 1 : 0;
+                waiting += waiting + length > 4096 ? 0 : length;
+            }
+            same("lost, left " + left, s.box.value(27), lost);
+            same("waiting, left " + left, s.box.value(29), waiting - 52);
+        }
     }
 
     private static void shorterOnesBehindALostOne() {

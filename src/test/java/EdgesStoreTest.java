@@ -14,6 +14,7 @@ public final class EdgesStoreTest extends Edges {
         endedRetrieval();
         underWayTillNoneIsLeft();
         justRoomInTheChannel();
+        emptyBytesTakeRoom();
         noRoomForTheNext();
         onlyOthersAreLeft();
         theyStay();
@@ -229,6 +230,35 @@ public final class EdgesStoreTest extends Edges {
             s.tick();
             same("over in the next tick", s.box.state(2), 0);
             text("all come", seriesTillSilent(s), series(0, 14));
+        }
+    }
+
+    private static void emptyBytesTakeRoom() {
+        sentence("Channels 0 and 1 are rows of at most 4,096 bytes that wait.");
+        for (int over = 0; over <= 1; over++) {
+            for (int left = 1; left <= 7; left++) {
+                Station s = new Station(1, 256, 1, 1, 16384);
+                s.order(15, 1, 6);
+                s.order(6, 5, 0, 0, 244 - left - 22);
+                s.box.tick();
+                for (int i = 0; i < 14; i++) {
+                    s.order(6, 5, 0, 0, 255);
+                    if (i % 7 == 6) {
+                        s.box.tick();
+                    }
+                }
+                s.order(6, 5, 0, 0, 4096 - 14 * 277 - (7 - left) - 22 + over);
+                for (int t = 0; t < 30; t++) {
+                    s.box.tick();
+                }
+                s.order(15, 9, span(1, 1));
+                s.box.tick();
+                same("of the EMPTY packet wait", s.box.state(0), 7 - left);
+                s.order(15, 9, span(2, 9));
+                s.box.tick();
+                same("under way, too long by " + over + ", left " + left, s.box.state(2), over);
+                same("waiting", s.box.state(0), (over == 0 ? 4096 : 14 * 277 + 7 - left) - 244);
+            }
         }
     }
 

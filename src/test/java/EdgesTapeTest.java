@@ -40,7 +40,7 @@ public final class EdgesTapeTest extends Edges {
     }
 
     private static void noRoomForAll() {
-        sentence("Twenty bytes come to the tape: true; false, changing nothing, if there is no room.");
+        sentence("Twenty bytes come to the tape ... true; false, changing nothing, if there is no room.");
         for (int left = 0; left <= 40; left++) {
             Box box = fed(204);
             box.end(4096 - Math.max(left, 16));

@@ -17,6 +17,8 @@ public final class EdgesTimetableTest extends Edges {
         notAboveTheClock();
         noInt();
         nothingToShift();
+        shiftOfAsManyAsThereCanBe();
+        othersStayAsTheyWere();
         refusedShiftChangesNothing();
         shiftOfThoseThatAreDue();
         noneIsTold();
@@ -270,6 +272,59 @@ public final class EdgesTimetableTest extends Edges {
         Station s = new Station();
         for (int by : new int[] {0, 1, -1, LEAST, LARGEST}) {
             same("of none by " + by, s.tryOut(11, 15, int4(by)), 0);
+        }
+        Station passed = with(3, 4);
+        ticks(passed, 5);
+        same("both are gone", passed.box.value(20), 0);
+        same("of none any more", passed.tryOut(11, 15, int4(0)), 0);
+        Station emptied = with(30, 40);
+        emptied.tryOut(11, 3);
+        same("of none any more", emptied.tryOut(11, 15, int4(LARGEST)), 0);
+    }
+
+    private static void shiftOfAsManyAsThereCanBe() {
+        sentence("11 15: by (4): all times grow by that (get less, if it is below 0)");
+        for (int most : new int[] {1, 2, 64}) {
+            Station s = new Station(most, 64, 1, 1, 64);
+            for (int i = 0; i < most; i++) {
+                s.order(11, 4, entry(100 + i, command(i, 17, 1)));
+                s.box.tick();
+            }
+            s.order(11, 15, int4(1000));
+            s.box.tick();
+            same("entries", s.box.value(20), most);
+            for (int i = 0; i < most; i++) {
+                same("time " + i + " of " + most, s.box.entry(i, 0), 1100 + i);
+            }
+        }
+    }
+
+    private static void othersStayAsTheyWere() {
+        sentence("all entries with commands of that NUMBER (modulo 16384) are gone");
+        for (int gone = 1; gone <= 4; gone++) {
+            Station s = new Station(4, 256, 4, 1, 64);
+            s.order(11, 1);
+            for (int i = 1; i <= 4; i++) {
+                s.order(11, 4, entry(10 + i, tellingTest(i)));
+            }
+            s.tick();
+            s.tryOut(11, 5, 0, gone);
+            s.tryOut(11, 4, entry(9, tellingTest(9)));
+            StringBuilder due = new StringBuilder("9 ");
+            for (int i = 1; i <= 4; i++) {
+                due.append(i == gone ? "" : i + " ");
+            }
+            StringBuilder got = new StringBuilder();
+            for (int i = 0; i < 4; i++) {
+                got.append(s.box.entry(i, 1)).append(' ');
+            }
+            text("a new one behind " + gone, got.toString(), due.toString());
+            got.setLength(0);
+            for (int t = s.box.value(17); t < 15; t++) {
+                s.tick();
+                got.append(done(s));
+            }
+            text("each is handled, without " + gone, got.toString(), due.toString());
         }
     }
 
