@@ -18,6 +18,7 @@ public final class EdgesFormsTest extends Edges {
         everyDividesTheClock();
         largestEvery();
         othersStayAsTheyWere();
+        behindTheAlarm();
         byIds();
         expect.end();
     }
@@ -256,6 +257,18 @@ public final class EdgesFormsTest extends Edges {
         same("form " + id, s.tryOut(3, 27, id), 0);
         int[] data = s.reports.get(0).data();
         bytes("its report", row(data[0], data[4], data[8], data[28], data[32]), id, 70, 60, 10, id % 8 * 10);
+    }
+
+    private static void behindTheAlarm() {
+        sentence("(7) Forms that are on, by ids, whose EVERY divides the CLOCK: their REPORTS are made.");
+        Station s = new Station(1, 256, 4, 1, 64);
+        s.order(3, 1, form(1, 1, 16, 12, 30));
+        s.order(3, 5, 1);
+        s.order(12, 5, limit(1, 16, 1, 0, 0, 4, 1));
+        s.order(12, 1, 1);
+        s.tick();
+        text("the limit's event, then the form", s.told(), "5 1, 3 25");
+        bytes("it sees the safe state that came in step 6", s.reports.get(1).data(), 1, 0, 0, 0, 0, 0, 0, 0, 50, 0, 0, 0, 0);
     }
 
     private static void byIds() {
